@@ -24,6 +24,7 @@ public final class ApplyTest {
         ownParent();
         keyThatRefers();
         child();
+        childIsTheLesserTable();
         full();
         checksInOrder();
         allOrNothing();
@@ -259,6 +260,20 @@ public final class ApplyTest {
         Due.fails(x, "0(1);", DELETE_ALL, 4, 0, -1, -1);
         Due.applied(x, "1(2);", DELETE_ALL, 1);
         Due.applied(x, "0(1);", DELETE_ALL, 1);
+    }
+
+    private static void childIsTheLesserTable() {
+        FixtureTables x = new FixtureTables();
+        x.table();
+        x.table();
+        x.column(1, 3, false, -1);
+        x.column(0, 3, false, -1);
+        x.column(0, 3, false, 1);
+        Due.applied(x, "0(01):t,f;1(0):t:f;", INSERT, 3);
+        Due.fails(x, "1(0):t:f;", DELETE, 4, 1, 1, -1);
+        Due.fails(x, "1(0);", DELETE_ALL, 4, 1, -1, -1);
+        Due.applied(x, "1(0):t:f;0(0):t;", CLEAN_INSERT, 6);
+        Due.applied(x, "1(0);", DELETE_ALL, 2);
     }
 
     private static void full() {

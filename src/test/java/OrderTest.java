@@ -7,6 +7,8 @@ public final class OrderTest {
         tablesWithoutColumns();
         circle();
         circleBehindOthers();
+        circleOfFive();
+        keysThatRefer();
         Due.end();
     }
 
@@ -96,5 +98,29 @@ public final class OrderTest {
         Due.raises("the first place, ahead of a circle", Due.UOE, () -> x.order(0));
         Due.dataset(x, "0(0):1;", 1);
         Due.raises("a table outside of the circle", Due.UOE, () -> x.apply(0));
+    }
+
+    private static void circleOfFive() {
+        FixtureTables x = tables(5);
+        int[][] orders = {{0, 1, 2, 3, 4}, {1, 0, 2, 3, 4}, {2, 1, 0, 3, 4}, {3, 2, 1, 0, 4}, {4, 3, 2, 1, 0}};
+        for (int i = 0; i < 5; i++) {
+            orderIs(x, orders[i]);
+            x.column(i, 0, false, (i + 1) % 5);
+        }
+        for (int k = 0; k < 5; k++) {
+            int place = k;
+            Due.raises("order in a circle of five", Due.UOE, () -> x.order(place));
+        }
+    }
+
+    private static void keysThatRefer() {
+        FixtureTables x = new FixtureTables();
+        x.table();
+        x.table();
+        x.column(1, 0, false, -1);
+        x.column(0, 0, false, 1);
+        orderIs(x, 1, 0);
+        x.column(1, 0, false, 0);
+        Due.raises("a circle by a key", Due.UOE, () -> x.order(0));
     }
 }

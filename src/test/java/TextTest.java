@@ -71,6 +71,10 @@ public final class TextTest {
         Due.is("wipe leaves the dataset", 2, () -> x.apply(0));
         x.wipe();
         Due.is("wipe of the empty text", 0, () -> x.read());
+        Due.dataset(x, "1(0):123456;", 1);
+        Due.noDataset(x, "1(0):1", 6);
+        Due.noDataset(x, "1(0)", 4);
+        Due.noDataset(x, "1", 1);
     }
 
     private static void readingAgain() {
@@ -175,6 +179,9 @@ public final class TextTest {
         cell(1, "-999999.99", -99999999);
         cell(1, "000001.10", 110);
         cell(1, "~", 0);
+        bad("0(1):;", 5);
+        bad("0(1):-;", 6);
+        bad("0(1):x;", 5);
         bad("0(1):.5;", 5);
         bad("0(1):-.5;", 6);
         bad("0(1):1.;", 7);
@@ -222,6 +229,8 @@ public final class TextTest {
         cell(2, "' ~ AZ~ '", packed(" ~ AZ~ "));
         cell(2, "'t'", packed("t"));
         cell(2, "~", 0);
+        bad("0(2):;", 5);
+        bad("0(2):,;", 5);
         bad("0(2):abcdefghi;", 13);
         bad("0(2):'abcdefghi';", 14);
         bad("0(2):'abcdefgh'';", 15);
@@ -270,5 +279,8 @@ public final class TextTest {
         bad(text + ":2,'b", 120);
         bad(text + ":2,B;", 118);
         bad(text + row + ";", 120);
+        bad(text + ":2222", 120);
+        bad(text + ":2,bc", 120);
+        bad(text + ":2,''", 120);
     }
 }
