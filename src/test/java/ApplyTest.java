@@ -26,6 +26,7 @@ public final class ApplyTest {
         child();
         childIsTheLesserTable();
         full();
+        greatest();
         checksInOrder();
         allOrNothing();
         failureIsForgotten();
@@ -290,6 +291,28 @@ public final class ApplyTest {
         Due.applied(x, "0(0):6;", DELETE, 1);
         Due.applied(x, "0(0):13;", INSERT, 1);
         Due.is("the last key", 13, () -> x.value(0, 11, 0));
+    }
+
+    /** As many tables, columns and rows as there can be. */
+    private static void greatest() {
+        FixtureTables x = new FixtureTables();
+        for (int table = 0; table < 5; table++) {
+            x.table();
+            for (int column = 0; column < 5; column++) {
+                x.column(table, 0, false, column == 4 ? table : -1);
+            }
+        }
+        Due.applied(x, "4(04):1,1:2,1:3,3:4,~:5,~:6,~:7,~:8,~:9,~:10,~:11,~:12,12;", INSERT, 12);
+        Due.fails(x, "4(0):1;", DELETE, 4, 4, 0, -1);
+        Due.fails(x, "4(0):13;", REFRESH, 6, 4, 0, -1);
+        Due.fails(x, "4(04):12,13;", UPDATE, 3, 4, 0, 4);
+        Due.applied(x, "4(04):12,11;", UPDATE, 1);
+        Due.is("the last row's last value", 11, () -> x.value(4, 11, 4));
+        Due.applied(x, "4(0):5;", DELETE, 1);
+        Due.is("the last key", 12, () -> x.value(4, 10, 0));
+        Due.applied(x, "4(01234):0,1,2,3,4;", INSERT, 1);
+        Due.is("the last key", 12, () -> x.value(4, 11, 0));
+        Due.applied(x, "4(4);", DELETE_ALL, 12);
     }
 
     /** One row that breaks more than one check fails by the first one. */
