@@ -54,6 +54,11 @@ final class Due {
         }
     }
 
+    /** Numbers that are none of 0 .. count - 1: the next ones, those that a cast would wrap, and the farthest. */
+    static int[] outside(int count) {
+        return new int[] {-1, count, -256, 256, 65536, Integer.MIN_VALUE, Integer.MAX_VALUE};
+    }
+
     /** Types a text in place of what was there. */
     static void text(FixtureTables x, String text) {
         x.wipe();
