@@ -31,16 +31,6 @@ public final class ApplyEdgesTest {
         Due.end();
     }
 
-    /** Tables of a text key alone. */
-    private static FixtureTables keys(int tables) {
-        FixtureTables x = new FixtureTables();
-        for (int i = 0; i < tables; i++) {
-            x.table();
-            x.column(i, 2, false, -1);
-        }
-        return x;
-    }
-
     /** An integer key and four integers that may be null. */
     private static FixtureTables wide() {
         FixtureTables x = new FixtureTables();
@@ -62,28 +52,13 @@ public final class ApplyEdgesTest {
         return x;
     }
 
-    private static FixtureTables after(FixtureTables x, String... texts) {
-        for (String text : texts) {
-            Due.text(x, text);
-            x.read();
-            x.apply(INSERT);
-        }
-        return x;
-    }
-
-    private static FixtureTables read(FixtureTables x, String text) {
-        Due.text(x, text);
-        x.read();
-        return x;
-    }
-
     /** "IllegalArgumentException if there is no such operation" */
     private static void noSuchOperation() {
         for (int operation : Due.outside(6)) {
             Twins.notTried("apply(" + operation + ")", Due.IAE, () -> Twins.rich(1), operation);
         }
-        Due.is("apply(0)", 0, () -> read(wide(), "0(0);").apply(INSERT));
-        Due.is("apply(5)", 0, () -> read(wide(), "0(0);").apply(CLEAN_INSERT));
+        Due.is("apply(0)", 0, () -> Due.read(wide(), "0(0);").apply(INSERT));
+        Due.is("apply(5)", 0, () -> Due.read(wide(), "0(0);").apply(CLEAN_INSERT));
     }
 
     /** "IllegalStateException if no dataset was read" */
@@ -123,12 +98,13 @@ public final class ApplyEdgesTest {
     private static void noSectionsNoRows() {
         for (int operation = 0; operation < 4; operation++) {
             int number = operation;
-            Twins.answered("no sections", 0, () -> read(Twins.rich(1), ""), x -> x.apply(number), Twins.FAILURE);
-            Twins.answered("no rows", 0, () -> read(Twins.rich(1), "0(1);1(0);"), x -> x.apply(number), Twins.FAILURE);
+            Twins.answered("no sections", 0, () -> Due.read(Twins.rich(1), ""), x -> x.apply(number), Twins.FAILURE);
+            Twins.answered("no rows", 0, () -> Due.read(Twins.rich(1), "0(1);1(0);"), x -> x.apply(number),
+                    Twins.FAILURE);
         }
-        Twins.answered("no sections", 0, () -> read(Twins.rich(1), ""), x -> x.apply(DELETE_ALL), Twins.FAILURE);
-        Twins.answered("no sections", 0, () -> read(Twins.rich(1), ""), x -> x.apply(CLEAN_INSERT), Twins.FAILURE);
-        FixtureTables x = read(keys(1), "0(0);");
+        Twins.answered("no sections", 0, () -> Due.read(Twins.rich(1), ""), x -> x.apply(DELETE_ALL), Twins.FAILURE);
+        Twins.answered("no sections", 0, () -> Due.read(Twins.rich(1), ""), x -> x.apply(CLEAN_INSERT), Twins.FAILURE);
+        FixtureTables x = Due.read(Due.keys(1, 2), "0(0);");
         Due.is("an empty table", 0, () -> x.apply(DELETE_ALL));
         Due.is("an empty table", 0, () -> x.apply(CLEAN_INSERT));
     }
@@ -176,7 +152,7 @@ public final class ApplyEdgesTest {
 
     /** "the row with that key gets the other values that the section has." */
     private static void theOtherValues() {
-        FixtureTables x = after(wide(), "0(01234):1,2,3,4,5:2,3,4,5,6;");
+        FixtureTables x = Due.inserted(wide(), "0(01234):1,2,3,4,5:2,3,4,5,6;");
         Due.applied(x, "0(30):9,1;", UPDATE, 1);
         Due.table(x, 0, "0(01234):1,2,3,9,5:2,3,4,5,6;");
         Due.applied(x, "0(043):1,~,~;", UPDATE, 1);
@@ -189,7 +165,7 @@ public final class ApplyEdgesTest {
 
     /** "(A row that gets the values it had is changed, too" */
     private static void changedToWhatItWas() {
-        FixtureTables x = after(wide(), "0(01):1,2:2,3;");
+        FixtureTables x = Due.inserted(wide(), "0(01):1,2:2,3;");
         Due.applied(x, "0(01):1,2:2,3:1,2;", UPDATE, 3);
         Due.applied(x, "0(0):1:2:2:2;", UPDATE, 4);
         Due.applied(x, "0(01):1,2;", REFRESH, 1);
@@ -199,14 +175,14 @@ public final class ApplyEdgesTest {
 
     /** "if there is a row with that key as UPDATE, else as INSERT." */
     private static void refreshIsOneOfTwo() {
-        FixtureTables x = after(wide(), "0(012):1,2,3;");
+        FixtureTables x = Due.inserted(wide(), "0(012):1,2,3;");
         Due.applied(x, "0(01):0,5:1,6:2,7:2,8;", REFRESH, 4);
         Due.table(x, 0, "0(01234):0,5,~,~,~:1,6,3,~,~:2,8,~,~,~;");
     }
 
     /** "the row with that key goes; if there is none, nothing." */
     private static void noRowToDelete() {
-        FixtureTables x = after(wide(), "0(0):1:3;");
+        FixtureTables x = Due.inserted(wide(), "0(0):1:3;");
         Due.applied(x, "0(0):0:2:4;", DELETE, 0);
         Due.applied(x, "0(0):1:1:1;", DELETE, 1);
         Due.table(x, 0, "0(01234):3,~,~,~,~;");
@@ -217,7 +193,7 @@ public final class ApplyEdgesTest {
 
     /** "tables in the reverse order (their sections and rows in theirs)" */
     private static void tablesInReverse() {
-        FixtureTables x = after(childAndParent(), "0(01):1,7:2,8;1(0):7:8:9;");
+        FixtureTables x = Due.inserted(childAndParent(), "0(01):1,7:2,8;1(0):7:8:9;");
         Due.fails(x, "1(0):9:7;0(0):2;", DELETE, 4, 1, 1, -1);
         Due.applied(x, "1(0):9:7;0(0):1;", DELETE, 3);
         Due.applied(x, "1(0):8;0(0):2;", DELETE, 2);
@@ -225,7 +201,7 @@ public final class ApplyEdgesTest {
         y.table();
         y.column(0, 0, false, -1);
         y.column(0, 0, false, 0);
-        after(y, "0(01):1,~:2,1:3,2;");
+        Due.inserted(y, "0(01):1,~:2,1:3,2;");
         Due.fails(y, "0(0):3:1:2;", DELETE, 4, 0, 1, -1);
         Due.fails(y, "0(0):1;0(0):2:3;", DELETE, 4, 0, 0, -1);
         Due.applied(y, "0(0):3;0(0):2;0(0):1;", DELETE, 3);
@@ -233,21 +209,21 @@ public final class ApplyEdgesTest {
 
     /** "all rows of each table that has a section, in the reverse order." */
     private static void tablesThatHaveASection() {
-        FixtureTables x = after(keys(3), "0(0):a:b;1(0):c;2(0):d:e:f;");
+        FixtureTables x = Due.inserted(Due.keys(3, 2), "0(0):a:b;1(0):c;2(0):d:e:f;");
         Due.applied(x, "0(0);", DELETE_ALL, 2);
         Due.is("another table's rows", 1, () -> x.rows(1));
         Due.is("another table's rows", 3, () -> x.rows(2));
         Due.applied(x, "2(0):~:zz;2(0);1(0);2(0):~;", DELETE_ALL, 4);
         Due.is("none is left", 0, () -> x.rows(1) + x.rows(2));
-        FixtureTables y = after(childAndParent(), "0(01):1,7;1(0):7:8;");
+        FixtureTables y = Due.inserted(childAndParent(), "0(01):1,7;1(0):7:8;");
         Due.applied(y, "1(0);0(0);", DELETE_ALL, 3);
-        after(y, "0(01):1,7;1(0):7:8;");
+        Due.inserted(y, "0(01):1,7;1(0):7:8;");
         Due.applied(y, "0(0);1(0);", DELETE_ALL, 3);
     }
 
-    /** "5 CLEAN INSERT: 4, then 0."; "of 5 those gone and those made.)" */
+    /** "An operation: how many changes were made."; "5 CLEAN INSERT: 4, then 0."; "of 5 those gone and those made.)" */
     private static void deleteAllThenInsert() {
-        FixtureTables x = after(keys(2), "0(0):a:b;1(0):c;");
+        FixtureTables x = Due.inserted(Due.keys(2, 2), "0(0):a:b;1(0):c;");
         Due.applied(x, "0(0):b;", CLEAN_INSERT, 3);
         Due.table(x, 0, "0(0):b;");
         Due.table(x, 1, "1(0):c;");
@@ -257,17 +233,21 @@ public final class ApplyEdgesTest {
         Due.applied(x, "0(0):a;1(0):b;", CLEAN_INSERT, 2);
     }
 
-    /** "at most 12 ROWS": the 12th is taken, the 13th is not. */
+    /** "at most 12 ROWS"; "6 FULL (a new row): there are 12 rows." */
     private static void fullTables() {
-        String eleven = TWELVE.substring(0, 22);
-        Due.is("12 rows", 1, () -> read(after(keys(1), "0(0)" + eleven + ";"), "0(0):l;").apply(INSERT));
-        Due.is("12 rows", 1, () -> read(after(keys(1), "0(0)" + eleven + ";"), "0(0):l;").apply(REFRESH));
-        Due.is("12 rows", 12, () -> read(keys(1), "0(0)" + TWELVE + ";").apply(CLEAN_INSERT));
+        String eleven = "0(0)" + TWELVE.substring(0, 22) + ";";
         for (int operation : new int[] {INSERT, REFRESH}) {
-            Twins.failed("a 13th row", () -> read(full(), "0(0):m;"), operation, 6, 0, 0, -1);
-            Twins.failed("a 13th row", () -> read(keys(1), "0(0)" + TWELVE + ":m;"), operation, 6, 0, 12, -1);
+            FixtureTables y = Due.inserted(Due.keys(1, 2), eleven);
+            Due.applied(y, "0(0):l;", operation, 1);
+            Due.is("rows", 12, () -> y.rows(0));
         }
-        Twins.failed("a 13th row", () -> read(full(), "0(0)" + TWELVE + ":m;"), CLEAN_INSERT, 6, 0, 12, -1);
+        Due.is("12 rows", 12, () -> Due.read(Due.keys(1, 2), "0(0)" + TWELVE + ";").apply(CLEAN_INSERT));
+        for (int operation : new int[] {INSERT, REFRESH}) {
+            Twins.failed("a 13th row", () -> Due.read(full(), "0(0):m;"), operation, 6, 0, 0, -1);
+            Twins.failed("a 13th row", () -> Due.read(Due.keys(1, 2), "0(0)" + TWELVE + ":m;"), operation,
+                    6, 0, 12, -1);
+        }
+        Twins.failed("a 13th row", () -> Due.read(full(), "0(0)" + TWELVE + ":m;"), CLEAN_INSERT, 6, 0, 12, -1);
         FixtureTables x = full();
         Due.applied(x, "0(0)" + TWELVE + ";", CLEAN_INSERT, 24);
         Due.applied(x, "0(0)" + TWELVE + ";", UPDATE, 12);
@@ -279,12 +259,12 @@ public final class ApplyEdgesTest {
     }
 
     private static FixtureTables full() {
-        return after(keys(1), "0(0)" + TWELVE + ";");
+        return Due.inserted(Due.keys(1, 2), "0(0)" + TWELVE + ";");
     }
 
     /** "24 rows in all", each of them a change */
     private static void twentyFourChanges() {
-        FixtureTables x = read(keys(2), "1(0)" + TWELVE + ";0(0)" + TWELVE + ";");
+        FixtureTables x = Due.read(Due.keys(2, 2), "1(0)" + TWELVE + ";0(0)" + TWELVE + ";");
         Due.is("INSERT", 24, () -> x.apply(INSERT));
         Due.is("rows", 12, () -> x.rows(0));
         Due.is("rows", 12, () -> x.rows(1));
@@ -297,10 +277,10 @@ public final class ApplyEdgesTest {
 
     /** Five full tables, six sections, 24 rows: as many changes as one operation can make. */
     private static void mostChanges() {
-        FixtureTables x = after(keys(5), "0(0)" + TWELVE + ";1(0)" + TWELVE + ";", "2(0)" + TWELVE + ";3(0)" + TWELVE + ";",
-                "4(0)" + TWELVE + ";");
+        FixtureTables x = Due.inserted(Due.keys(5, 2), "0(0)" + TWELVE + ";1(0)" + TWELVE + ";",
+                "2(0)" + TWELVE + ";3(0)" + TWELVE + ";", "4(0)" + TWELVE + ";");
         x.begin();
-        read(x, "4(0)" + TWELVE + ";1(0);3(0)" + TWELVE + ";0(0);2(0);4(0);");
+        Due.read(x, "4(0)" + TWELVE + ";1(0);3(0)" + TWELVE + ";0(0);2(0);4(0);");
         Due.is("CLEAN INSERT", 84, () -> x.apply(CLEAN_INSERT));
         int[] rows = {0, 0, 0, 12, 12};
         for (int table = 0; table < 5; table++) {
@@ -313,16 +293,21 @@ public final class ApplyEdgesTest {
 
     /** "an operation FAILS by the first check that does not hold, and then nothing of it is done." */
     private static void nothingOfItIsDone() {
-        String last = "1(0)" + TWELVE + ";0(0)" + TWELVE.substring(2) + ":c;";
-        Twins.failed("the last of 24 rows", () -> read(keys(2), "0(0)" + TWELVE + ";1(0)" + TWELVE.substring(2) + ":c;"),
-                INSERT, 2, 1, 23, -1);
-        Twins.failed("the last row of the first table", () -> read(keys(2), last), INSERT, 2, 0, 23, -1);
-        Twins.failed("UPDATE", () -> read(after(wide(), "0(01):1,2:2,3;"), "0(01):1,9:2,9:3,9;"), UPDATE, 5, 0, 2, -1);
-        Twins.failed("REFRESH", () -> read(after(wide(), "0(01):1,2;"), "0(01):1,9:5,9:~,9;"), REFRESH, 1, 0, 2, 0);
-        Twins.failed("DELETE", () -> read(after(wide(), "0(0):1:2;"), "0(0):1:2:~;"), DELETE, 1, 0, 2, 0);
-        Twins.failed("DELETE ALL", () -> read(family(), "2(0);1(0);"), DELETE_ALL, 4, 1, -1, -1);
-        Twins.failed("CLEAN INSERT, as it deletes", () -> read(family(), "1(0):1;2(0):2;"), CLEAN_INSERT, 4, 1, -1, -1);
-        Twins.failed("CLEAN INSERT, as it inserts", () -> read(family(), "2(0):3:3;0(01):1,7;"), CLEAN_INSERT, 2, 2, 1, -1);
+        String twice = TWELVE.substring(2) + ":c;";
+        Twins.failed("the last of 24 rows", () -> Due.read(Due.keys(2, 2), "0(0)" + TWELVE + ";1(0)" + twice), INSERT,
+                2, 1, 23, -1);
+        Twins.failed("the first table's last row", () -> Due.read(Due.keys(2, 2), "1(0)" + TWELVE + ";0(0)" + twice),
+                INSERT, 2, 0, 23, -1);
+        Twins.failed("UPDATE", () -> Due.read(Due.inserted(wide(), "0(01):1,2:2,3;"), "0(01):1,9:2,9:3,9;"), UPDATE,
+                5, 0, 2, -1);
+        Twins.failed("REFRESH", () -> Due.read(Due.inserted(wide(), "0(01):1,2;"), "0(01):1,9:5,9:~,9;"), REFRESH,
+                1, 0, 2, 0);
+        Twins.failed("DELETE", () -> Due.read(Due.inserted(wide(), "0(0):1:2;"), "0(0):1:2:~;"), DELETE, 1, 0, 2, 0);
+        Twins.failed("DELETE ALL", () -> Due.read(family(), "2(0);1(0);"), DELETE_ALL, 4, 1, -1, -1);
+        Twins.failed("CLEAN INSERT, as it deletes", () -> Due.read(family(), "1(0):1;2(0):2;"), CLEAN_INSERT,
+                4, 1, -1, -1);
+        Twins.failed("CLEAN INSERT, as it inserts", () -> Due.read(family(), "2(0):3:3;0(01):1,7;"), CLEAN_INSERT,
+                2, 2, 1, -1);
     }
 
     /** Table 0 refers to table 1, and there is a table 2 that is cleared before them. */
@@ -330,12 +315,12 @@ public final class ApplyEdgesTest {
         FixtureTables x = childAndParent();
         x.table();
         x.column(2, 0, false, -1);
-        return after(x, "0(01):1,7;1(0):7:8;2(0):4:5;");
+        return Due.inserted(x, "0(01):1,7;1(0):7:8;2(0):4:5;");
     }
 
     /** The dataset can be applied again. */
     private static void datasetStays() {
-        FixtureTables x = read(keys(1), "0(0):a:b;");
+        FixtureTables x = Due.read(Due.keys(1, 2), "0(0):a:b;");
         Due.is("INSERT", 2, () -> x.apply(INSERT));
         Due.raises("INSERT again", Due.ISE, () -> x.apply(INSERT));
         Due.failure(x, "doubles", 2, 0, 0, -1);

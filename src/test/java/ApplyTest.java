@@ -58,14 +58,6 @@ public final class ApplyTest {
         return x;
     }
 
-    /** A key of one type, nothing else. */
-    private static FixtureTables keys(int type) {
-        FixtureTables x = new FixtureTables();
-        x.table();
-        x.column(0, type, false, -1);
-        return x;
-    }
-
     private static void wrongOperations() {
         FixtureTables x = single();
         Due.raises("apply(-1)", Due.IAE, () -> x.apply(-1));
@@ -172,11 +164,11 @@ public final class ApplyTest {
         Due.fails(x, "0(0):2;0(0):3:1;", INSERT, 2, 0, 2, -1);
         Due.fails(x, "0(0):2:2;", INSERT, 2, 0, 1, -1);
         Due.fails(x, "0(0):-0:0;", INSERT, 2, 0, 1, -1);
-        FixtureTables y = keys(1);
+        FixtureTables y = Due.keys(1, 1);
         Due.fails(y, "0(0):1.5:1.50;", INSERT, 2, 0, 1, -1);
-        FixtureTables z = keys(2);
+        FixtureTables z = Due.keys(1, 2);
         Due.fails(z, "0(0):a:'a';", INSERT, 2, 0, 1, -1);
-        FixtureTables b = keys(3);
+        FixtureTables b = Due.keys(1, 3);
         Due.fails(b, "0(0):f:t:f;", INSERT, 2, 0, 2, -1);
     }
 
@@ -379,16 +371,16 @@ public final class ApplyTest {
     }
 
     private static void keysInOrder() {
-        FixtureTables x = keys(0);
+        FixtureTables x = Due.keys(1, 0);
         Due.applied(x, "0(0):10:-2:9:0:-10;", INSERT, 5);
         Due.table(x, 0, "0(0):-10:-2:0:9:10;");
-        FixtureTables y = keys(1);
+        FixtureTables y = Due.keys(1, 1);
         Due.applied(y, "0(0):10:-2:9.99:0:-2.01:0.01;", INSERT, 6);
         Due.table(y, 0, "0(0):-2.01:-2.00:0.00:0.01:9.99:10.00;");
-        FixtureTables z = keys(2);
+        FixtureTables z = Due.keys(1, 2);
         Due.applied(z, "0(0):b:ab:a:'':'~':'B':aa:' ':'a ':aaaaaaaa:aaaaaaab;", INSERT, 11);
         Due.table(z, 0, "0(0):'':' ':'B':a:'a ':aa:aaaaaaaa:aaaaaaab:ab:b:'~';");
-        FixtureTables b = keys(3);
+        FixtureTables b = Due.keys(1, 3);
         Due.applied(b, "0(0):t:f;", INSERT, 2);
         Due.is("false first", 0, () -> b.value(0, 0, 0));
         Due.is("true behind it", 1, () -> b.value(0, 1, 0));

@@ -34,25 +34,12 @@ public final class ChecksEdgesTest {
         rowsBeforeChecks();
         tablesBeforeRows();
         rowsOverAllSections();
+        rowsOfOperationFour();
+        columnsOfChecks();
         farthestAnswers();
         otherWhats();
         ifItDidNotFail();
         Due.end();
-    }
-
-    private static FixtureTables after(FixtureTables x, String... texts) {
-        for (String text : texts) {
-            Due.text(x, text);
-            x.read();
-            x.apply(INSERT);
-        }
-        return x;
-    }
-
-    private static FixtureTables read(FixtureTables x, String text) {
-        Due.text(x, text);
-        x.read();
-        return x;
     }
 
     /** One table: a key of a type, and columns of the same type; own tells whether they refer to it. */
@@ -79,10 +66,10 @@ public final class ChecksEdgesTest {
         for (int i = 1; i <= children; i++) {
             rows.append(":").append(i).append(",0,").append(i == 1 ? "1" : "~");
         }
-        after(x, "0(0):1:2;1(012)" + rows + ";");
+        Due.inserted(x, "0(0):1:2;1(012)" + rows + ";");
         if (logIsFull) {
             x.begin();
-            read(x, TWENTY);
+            Due.read(x, TWENTY);
             for (int i = 0; i < 10; i++) {
                 x.apply(UPDATE);
             }
@@ -92,7 +79,7 @@ public final class ChecksEdgesTest {
 
     /** An operation on table 1 as it is made above. */
     private static void failed(int children, boolean logIsFull, String text, int operation, int... why) {
-        Twins.failed("apply(" + operation + ") of " + text, () -> read(parentAndChild(children, logIsFull), text),
+        Twins.failed("apply(" + operation + ") of " + text, () -> Due.read(parentAndChild(children, logIsFull), text),
                 operation, why);
     }
 
@@ -101,7 +88,7 @@ public final class ChecksEdgesTest {
         Due.applied(x, text, operation, changes);
     }
 
-    /** "1 NULL (operations 0 to 3): the key (column 0) is null" */
+    /** "Column 0 is the KEY: not null"; "1 NULL (operations 0 to 3): the key (column 0) is null" */
     private static void keyIsNull() {
         for (int operation = INSERT; operation <= DELETE; operation++) {
             failed(1, false, "1(012):~,0,1;", operation, 1, 1, 0, 0);
@@ -272,7 +259,7 @@ public final class ChecksEdgesTest {
             Due.fails(x, "0(01):a,b;", operation, 3, 0, 0, 1);
             Due.applied(x, "0(01):a,a;", operation, 1);
         }
-        FixtureTables x = after(alike(2, 2, false, true), "0(0):a;");
+        FixtureTables x = Due.inserted(alike(2, 2, false, true), "0(0):a;");
         Due.fails(x, "0(01):a,b;", UPDATE, 3, 0, 0, 1);
         Due.applied(x, "0(01):a,a;", UPDATE, 1);
         FixtureTables y = new FixtureTables();
@@ -297,7 +284,7 @@ public final class ChecksEdgesTest {
         done(0, false, "0(0):1;", DELETE, 1);
         done(1, false, "0(0):1;1(0):1;", DELETE, 2);
         for (int column = 1; column < 5; column++) {
-            FixtureTables x = after(alike(0, 5, false, true), "0(0" + column + "):1,1:2,1;");
+            FixtureTables x = Due.inserted(alike(0, 5, false, true), "0(0" + column + "):1,1:2,1;");
             Due.fails(x, "0(0):1;", DELETE, 4, 0, 0, -1);
             Due.applied(x, "0(0):2;", DELETE, 1);
             Due.applied(x, "0(0):1;", DELETE, 1);
@@ -307,7 +294,7 @@ public final class ChecksEdgesTest {
         y.table();
         y.column(0, 0, false, -1);
         y.column(1, 0, false, 0);
-        after(y, "0(0):1:2;1(0):2;");
+        Due.inserted(y, "0(0):1:2;1(0):2;");
         Due.fails(y, "0(0):1:2;", DELETE, 4, 0, 1, -1);
         Due.applied(y, "0(0):1;", DELETE, 1);
     }
@@ -318,9 +305,9 @@ public final class ChecksEdgesTest {
         failed(1, false, "0(0):5;", CLEAN_INSERT, 4, 0, -1, -1);
         done(1, false, "0(0);1(0);", DELETE_ALL, 3);
         done(0, false, "0(0);", DELETE_ALL, 2);
-        FixtureTables x = after(alike(0, 2, false, true), "0(01):1,1:2,1:3,2;");
+        FixtureTables x = Due.inserted(alike(0, 2, false, true), "0(01):1,1:2,1:3,2;");
         Due.applied(x, "0(0);", DELETE_ALL, 3);
-        FixtureTables y = after(parentAndChild(1, false), "0(0):9;");
+        FixtureTables y = Due.inserted(parentAndChild(1, false), "0(0):9;");
         Due.fails(y, "0(0);", DELETE_ALL, 4, 0, -1, -1);
         Due.applied(y, "1(02):1,~;", UPDATE, 1);
         Due.applied(y, "0(0);", DELETE_ALL, 3);
@@ -328,7 +315,7 @@ public final class ChecksEdgesTest {
 
     /** A null refers to no row, also where the row's key is 0. */
     private static void nullIsNoChild() {
-        FixtureTables x = after(parentAndChild(2, false), "0(0):0;");
+        FixtureTables x = Due.inserted(parentAndChild(2, false), "0(0):0;");
         Due.applied(x, "0(0):0;", DELETE, 1);
         FixtureTables y = new FixtureTables();
         y.table();
@@ -336,7 +323,7 @@ public final class ChecksEdgesTest {
         y.column(0, 3, false, -1);
         y.column(1, 3, false, -1);
         y.column(1, 3, false, 0);
-        after(y, "0(0):f;1(01):f,~:t,~;");
+        Due.inserted(y, "0(0):f;1(01):f,~:t,~;");
         Due.applied(y, "0(0);", DELETE_ALL, 1);
     }
 
@@ -408,7 +395,7 @@ public final class ChecksEdgesTest {
         failed(12, false, "1(012):1,0,1:1,~,9;", CLEAN_INSERT, 2, 1, 1, -1);
     }
 
-    /** "Each row is CHECKED as it is changed": a row's last check comes before the next row's first one. */
+    /** "Each row (of 4 each table) is CHECKED as it is changed": a row's last check is before the next one's first. */
     private static void rowsBeforeChecks() {
         failed(12, false, "1(01):13,0:~,0;", INSERT, 6, 1, 0, -1);
         failed(12, false, "1(01):~,0:13,0;", INSERT, 1, 1, 0, 0);
@@ -435,6 +422,28 @@ public final class ChecksEdgesTest {
         failed(1, false, "0(0):9;1(01):2,0;0(0):8;1(0):3;", INSERT, 1, 1, 3, 1);
     }
 
+    /** "(2; -1 for operation 4, also as a part of 5)" */
+    private static void rowsOfOperationFour() {
+        String text = "0(0):3;";
+        failed(1, false, text, DELETE_ALL, 4, 0, -1, -1);
+        failed(1, false, text, CLEAN_INSERT, 4, 0, -1, -1);
+        failed(0, true, text, DELETE_ALL, 7, 0, -1, -1);
+        failed(0, true, text, CLEAN_INSERT, 7, 0, -1, -1);
+        failed(0, false, "0(0):3:3;", CLEAN_INSERT, 2, 0, 1, -1);
+        failed(0, true, "1(01):3,0;", CLEAN_INSERT, 7, 1, 0, -1);
+    }
+
+    /** "(3; -1 but for checks 1 and 3)" */
+    private static void columnsOfChecks() {
+        failed(12, false, "1(01):~,0;", INSERT, 1, 1, 0, 0);
+        failed(12, false, "1(01):12,0;", INSERT, 2, 1, 0, -1);
+        failed(12, false, "1(012):13,0,3;", INSERT, 3, 1, 0, 2);
+        failed(12, false, "0(0):1;", DELETE, 4, 0, 0, -1);
+        failed(12, false, "1(01):13,0;", UPDATE, 5, 1, 0, -1);
+        failed(12, false, "1(01):13,0;", REFRESH, 6, 1, 0, -1);
+        failed(12, true, "1(01):12,0;", REFRESH, 7, 1, 0, -1);
+    }
+
     /** The last table, the last row and the last column that there can be. */
     private static void farthestAnswers() {
         FixtureTables x = new FixtureTables();
@@ -444,13 +453,13 @@ public final class ChecksEdgesTest {
                 x.column(table, 3, false, column == 4 ? table : -1);
             }
         }
-        read(x, "4(0)" + ":t".repeat(23) + ";4(04):f,t;");
+        Due.read(x, "4(0)" + ":t".repeat(23) + ";4(04):f,t;");
         Due.raises("REFRESH", 0, () -> x.apply(REFRESH));
-        read(x, "4(0)" + ":f".repeat(23) + ";4(0):~;");
+        Due.read(x, "4(0)" + ":f".repeat(23) + ";4(0):~;");
         Due.raises("REFRESH", Due.ISE, () -> x.apply(REFRESH));
         Due.failure(x, "of the 24th row", 1, 4, 23, 0);
         Due.applied(x, "4(0);", DELETE_ALL, 2);
-        read(x, "4(0)" + ":f".repeat(23) + ";4(04):f,t;");
+        Due.read(x, "4(0)" + ":f".repeat(23) + ";4(04):f,t;");
         Due.raises("REFRESH", Due.ISE, () -> x.apply(REFRESH));
         Due.failure(x, "of the 24th row's last column", 3, 4, 23, 4);
         Due.is("nothing was done", 0, () -> x.rows(4));

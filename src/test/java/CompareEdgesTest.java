@@ -26,6 +26,7 @@ public final class CompareEdgesTest {
         noSuchWhat();
         behindTheTwentieth();
         noCompareSince();
+        partsOfADifference();
         latestCompare();
         Due.end();
     }
@@ -40,12 +41,6 @@ public final class CompareEdgesTest {
         Due.text(x, rows);
         x.read();
         x.apply(0);
-        return x;
-    }
-
-    private static FixtureTables read(FixtureTables x, String text) {
-        Due.text(x, text);
-        x.read();
         return x;
     }
 
@@ -74,9 +69,9 @@ public final class CompareEdgesTest {
     /** "IllegalStateException if no dataset was read." */
     private static void noDatasetRead() {
         Twins.refused("no dataset", Due.ISE, FixtureTables::new, x -> x.compare(0, 0));
-        Twins.refused("a read that threw", Due.ISE, CompareEdgesTest::afterWrongRead, x -> x.compare(Long.MAX_VALUE, 31));
+        Twins.refused("a read that threw", Due.ISE, CompareEdgesTest::afterWrongRead, x -> x.compare(0, 31));
         Twins.refused("a column made", Due.ISE, CompareEdgesTest::afterColumn, x -> x.compare(0, 0));
-        Due.is("a dataset without sections", 0, () -> read(new FixtureTables(), "").compare(0, 0));
+        Due.is("a dataset without sections", 0, () -> Due.read(new FixtureTables(), "").compare(0, 0));
     }
 
     private static FixtureTables afterWrongRead() {
@@ -135,13 +130,10 @@ public final class CompareEdgesTest {
         texts.table();
         texts.column(0, 2, false, -1);
         texts.column(0, 3, false, -1);
-        read(texts, "0(01):'',t:a,t:ab,t:b,f;").apply(0);
+        Due.read(texts, "0(01):'',t:a,t:ab,t:b,f;").apply(0);
         compared(texts, "0(01):b,f:ab,t:'',t:a,t;", 0, 0);
         compared(texts, "0(01):b,f:ab,f:'',f:a,t;", 0, 0, 0, 0, 1, 0, 2, 1);
-        FixtureTables booleans = new FixtureTables();
-        booleans.table();
-        booleans.column(0, 3, false, -1);
-        read(booleans, "0(0):t:f;").apply(0);
+        FixtureTables booleans = Due.inserted(Due.keys(1, 3), "0(0):t:f;");
         compared(booleans, "0(0):t:f;", 0, 0);
         compared(booleans, "0(0):f:t;", 0, 0);
     }
@@ -156,7 +148,7 @@ public final class CompareEdgesTest {
         texts.table();
         texts.column(0, 2, false, -1);
         texts.column(0, 0, false, -1);
-        read(texts, "0(01):'',1:a,2;").apply(0);
+        Due.read(texts, "0(01):'',1:a,2;").apply(0);
         compared(texts, "0(01):'',2:~,1;", 0, 1);
     }
 
@@ -214,6 +206,7 @@ public final class CompareEdgesTest {
         compared(y, "0(0):999999999;", Long.MAX_VALUE, 0, 0, 0, 0);
     }
 
+    /** "or values differ, those of DECIMAL by more than delta" */
     private static void deltaIsOfDecimalsAlone() {
         FixtureTables x = table("0(0123):1,1,a,f;");
         compared(x, "0(0123):2,2,'a ',t;", Long.MAX_VALUE, 0, 0, 0, 0, 0, 0, 2, 0, 0, 3);
@@ -231,8 +224,8 @@ public final class CompareEdgesTest {
         for (int column = 0; column < 5; column++) {
             x.column(0, 3, false, -1);
         }
-        read(x, "0(01234):t,t,t,t,t;").apply(0);
-        read(x, "0(43210):f,f,f,f,f;");
+        Due.read(x, "0(01234):t,t,t,t,t;").apply(0);
+        Due.read(x, "0(43210):f,f,f,f,f;");
         for (int ignored = 0; ignored < 32; ignored++) {
             int bits = ignored;
             Due.is("ignored " + ignored, 5 - Integer.bitCount(ignored), () -> x.compare(0, bits));
@@ -263,7 +256,8 @@ public final class CompareEdgesTest {
     /** "by row and column as the section has them" */
     private static void byRowAndColumn() {
         FixtureTables x = table("0(0123):1,1,a,t:2,2,b,f;");
-        compared(x, "0(3021):t,8,x,9:f,7,y,9;", 0, 0, 0, 0, 3, 0, 0, 0, 0, 0, 2, 0, 0, 1, 0, 1, 3, 0, 1, 0, 0, 1, 2, 0, 1, 1);
+        compared(x, "0(3021):t,8,x,9:f,7,y,9;", 0, 0,
+                0, 0, 3, 0, 0, 0, 0, 0, 2, 0, 0, 1, 0, 1, 3, 0, 1, 0, 0, 1, 2, 0, 1, 1);
         compared(x, "0(12):7,x:8,y;", 0, 0, 0, 0, 1, 0, 0, 2, 0, 1, 1, 0, 1, 2);
     }
 
@@ -329,7 +323,7 @@ public final class CompareEdgesTest {
     private static void behindTheTwentieth() {
         String text = "0(3)" + ":f".repeat(10) + ";0(3)" + ":f".repeat(10) + ";0(3)";
         FixtureTables x = table("0(03):1,t:2,t:3,t:4,t:5,t:6,t:7,t:8,t:9,t:10,t;");
-        read(x, text + ":t".repeat(4) + ";");
+        Due.read(x, text + ":t".repeat(4) + ";");
         Due.is("21 differences", 21, () -> x.compare(0, 0));
         Due.difference(x, 18, 1, 8, 3);
         Due.difference(x, 19, 1, 9, 3);
@@ -337,11 +331,11 @@ public final class CompareEdgesTest {
             Due.raises("difference " + i, Due.IOOBE, () -> x.difference(i, 0));
             Due.raises("difference " + i, Due.IOOBE, () -> x.difference(i, 3));
         }
-        read(x, text.substring(0, 49) + ";");
+        Due.read(x, text.substring(0, 49) + ";");
         Due.is("20 differences", 20, () -> x.compare(0, 0));
         Due.difference(x, 19, 1, 9, 3);
         Due.raises("the 21st of 20", Due.IOOBE, () -> x.difference(20, 0));
-        read(x, "0(3)" + ":f".repeat(9) + ":t;0(3)" + ":f".repeat(10) + ";");
+        Due.read(x, "0(3)" + ":f".repeat(9) + ":t;0(3)" + ":f".repeat(10) + ";");
         Due.is("19 differences", 19, () -> x.compare(0, 0));
         Due.difference(x, 18, 1, 9, 3);
         Due.raises("the 20th of 19", Due.IOOBE, () -> x.difference(19, 0));
@@ -367,6 +361,14 @@ public final class CompareEdgesTest {
         x.wipe();
         Due.is("a dataset without sections", 0, () -> x.read());
         Due.raises("no compare since", Due.IOOBE, () -> x.difference(0, 0));
+    }
+
+    /** "-1 if it is of how many rows there are), the table's column (2; -1 likewise)" */
+    private static void partsOfADifference() {
+        FixtureTables x = table("0(0123):1,1,a,t:2,2,b,f;");
+        compared(x, "0(0);0(0123):1,1,a,t:2,2,b,t:9,~,~,~;0(32):t,a:f,c;", 0, 0,
+                0, -1, -1, 1, -1, -1, 1, 1, 3, 2, 1, 2);
+        compared(x, "0(20):b,2:z,1:a,0;", 0, 0, 0, -1, -1, 0, 0, 0, 0, 1, 2, 0, 1, 0);
     }
 
     /** "Of the latest compare()'s difference i" */

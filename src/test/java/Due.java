@@ -59,12 +59,37 @@ final class Due {
         return new int[] {-1, count, -256, 256, 65536, Integer.MIN_VALUE, Integer.MAX_VALUE};
     }
 
+    /** So many tables of a key of a type, and nothing else. */
+    static FixtureTables keys(int tables, int type) {
+        FixtureTables x = new FixtureTables();
+        for (int table = 0; table < tables; table++) {
+            x.table();
+            x.column(table, type, false, -1);
+        }
+        return x;
+    }
+
     /** Types a text in place of what was there. */
     static void text(FixtureTables x, String text) {
         x.wipe();
         for (int i = 0; i < text.length(); i++) {
             x.type(text.charAt(i));
         }
+    }
+
+    /** The same object, when it has read a text that is a dataset. */
+    static FixtureTables read(FixtureTables x, String text) {
+        text(x, text);
+        x.read();
+        return x;
+    }
+
+    /** The same object, when it has inserted the rows of each text. */
+    static FixtureTables inserted(FixtureTables x, String... texts) {
+        for (String text : texts) {
+            read(x, text).apply(0);
+        }
+        return x;
     }
 
     /** A text that is a dataset: read. */

@@ -48,8 +48,8 @@ public final class FaceTest {
         TreeSet<String> found = new TreeSet<>();
         for (Method method : FixtureTables.class.getDeclaredMethods()) {
             if (!method.isSynthetic() && !Modifier.isPrivate(method.getModifiers())) {
-                found.add(method.getReturnType() + " " + method.getName() + "(" + names(method.getParameterTypes()) + ") "
-                        + names(method.getExceptionTypes()));
+                found.add(method.getReturnType() + " " + method.getName() + "("
+                        + names(method.getParameterTypes()) + ") " + names(method.getExceptionTypes()));
             }
         }
         return found;

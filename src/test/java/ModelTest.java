@@ -57,7 +57,9 @@ public final class ModelTest {
         model = new Model();
         spread = chance(70) ? 3 : 14;
         lean = chance(60);
-        if (chance(50)) {
+        if (chance(15)) {
+            makeCrowd();
+        } else if (chance(50)) {
             makeTables();
         } else {
             makeFamily();
@@ -123,6 +125,26 @@ public final class ModelTest {
         ask("apply(0)", () -> real.apply(0), () -> model.apply(0));
     }
 
+    /** Two tables with rows, and a transaction that has room for few changes more. */
+    private void makeCrowd() {
+        for (int i = 0; i < 2; i++) {
+            int table = i;
+            int parent = i == 1 && chance(50) ? 0 : -1;
+            ask("table()", () -> real.table(), () -> model.table());
+            ask("column(" + table + ", 0, false, -1)", () -> real.column(table, 0, false, -1),
+                    () -> model.column(table, 0, false, -1));
+            ask("column(" + table + ", 0, false, " + parent + ")", () -> real.column(table, 0, false, parent),
+                    () -> model.column(table, 0, false, parent));
+        }
+        typeText("0(0):0:1:2:3:4;1(01):0,~:1,1:2,~;");
+        ask("apply(0)", () -> real.apply(0), () -> model.apply(0));
+        ask("begin()", () -> real.begin(), () -> model.begin());
+        typeDataset("0(0)" + ":1".repeat(16 + pick(9)) + ";");
+        for (int i = 0; i < 8; i++) {
+            ask("apply(1)", () -> real.apply(1), () -> model.apply(1));
+        }
+    }
+
     private void makeColumn(int table, int type, int refers) {
         boolean required = chance(lean ? 5 : 25);
         int parent = chance(refers) ? pick(model.tables.size()) + (chance(3) ? 2 : 0) : chance(2) ? -2 : -1;
@@ -133,7 +155,7 @@ public final class ModelTest {
     private void step() {
         int kind = pick(100);
         if (kind < 35) {
-            typeDataset();
+            typeDataset(mutated(datasetText()));
         } else if (kind < 60) {
             operate(1);
         } else if (kind < 64) {
@@ -199,14 +221,14 @@ public final class ModelTest {
         }
     }
 
-    private void typeDataset() {
+    private void typeDataset(String text) {
         if (chance(97)) {
             calls++;
             real.wipe();
             model.text.setLength(0);
             told.append("; wipe");
         }
-        typeText(mutated(datasetText()));
+        typeText(text);
     }
 
     private void typeText(String text) {
@@ -269,14 +291,17 @@ public final class ModelTest {
             return "~";
         }
         if (type == 0) {
-            return chance(95) ? "" + pick(spread) : new String[] {"-0", "007", "-3", "123456789", "-000000001"}[pick(5)];
+            return chance(95) ? "" + pick(spread)
+                    : new String[] {"-0", "007", "-3", "123456789", "-000000001"}[pick(5)];
         }
         if (type == 1) {
-            return chance(chance(50) ? 95 : 50) ? "" + pick(spread) : new String[] {"0.5", "-0.05", "1.25", "3.1", "999999.99", "-7", "2.50"}[pick(7)];
+            return chance(chance(50) ? 95 : 50) ? "" + pick(spread)
+                    : new String[] {"0.5", "-0.05", "1.25", "3.1", "999999.99", "-7", "2.50"}[pick(7)];
         }
         if (type == 2) {
             return chance(chance(50) ? 95 : 50) ? "" + (char) ('a' + pick(spread))
-                    : new String[] {"''", "''''", "'it''s'", "ab", "'B'", "abcdefgh", "'a'", "'a b:;,('", "'12345678'"}[pick(9)];
+                    : new String[] {"''", "''''", "'it''s'", "ab", "'B'", "abcdefgh", "'a'", "'a b:;,('",
+                        "'12345678'"}[pick(9)];
         }
         return chance(50) ? "t" : "f";
     }
@@ -755,7 +780,8 @@ public final class ModelTest {
                 List<Map<Integer, Object>> mine = new ArrayList<>(section.rows);
                 if (section.columns.contains(0)) {
                     Comparator<Comparable<Object>> natural = Comparator.naturalOrder();
-                    mine.sort(Comparator.comparing(row -> (Comparable<Object>) row.get(0), Comparator.nullsFirst(natural)));
+                    mine.sort(Comparator.comparing(row -> (Comparable<Object>) row.get(0),
+                            Comparator.nullsFirst(natural)));
                 }
                 List<Map<Integer, Object>> there = new ArrayList<>(state.tables.get(section.table).values());
                 if (mine.size() != there.size()) {

@@ -16,18 +16,9 @@ public final class OrderEdgesTest {
         Due.end();
     }
 
-    private static FixtureTables tables(int count) {
-        FixtureTables x = new FixtureTables();
-        for (int i = 0; i < count; i++) {
-            x.table();
-            x.column(i, 0, false, -1);
-        }
-        return x;
-    }
-
     /** Tables of which one refers to another, in pairs: child, parent. */
     private static FixtureTables referring(int count, int... pairs) {
-        FixtureTables x = tables(count);
+        FixtureTables x = Due.keys(count, 0);
         for (int i = 0; i < pairs.length; i += 2) {
             x.column(pairs[i], 0, false, pairs[i + 1]);
         }

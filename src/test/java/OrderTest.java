@@ -12,15 +12,6 @@ public final class OrderTest {
         Due.end();
     }
 
-    private static FixtureTables tables(int count) {
-        FixtureTables x = new FixtureTables();
-        for (int i = 0; i < count; i++) {
-            x.table();
-            x.column(i, 0, false, -1);
-        }
-        return x;
-    }
-
     private static void orderIs(FixtureTables x, int... want) {
         for (int k = 0; k < want.length; k++) {
             int place = k;
@@ -32,11 +23,11 @@ public final class OrderTest {
 
     private static void withoutReferences() {
         orderIs(new FixtureTables());
-        orderIs(tables(5), 0, 1, 2, 3, 4);
+        orderIs(Due.keys(5, 0), 0, 1, 2, 3, 4);
     }
 
     private static void leastFirst() {
-        FixtureTables x = tables(5);
+        FixtureTables x = Due.keys(5, 0);
         x.column(0, 0, false, 3);
         orderIs(x, 1, 2, 3, 0, 4);
         x.column(1, 0, false, 4);
@@ -50,7 +41,7 @@ public final class OrderTest {
     }
 
     private static void ownReference() {
-        FixtureTables x = tables(2);
+        FixtureTables x = Due.keys(2, 0);
         x.column(0, 0, false, 0);
         orderIs(x, 0, 1);
         x.column(0, 0, false, 1);
@@ -58,14 +49,14 @@ public final class OrderTest {
     }
 
     private static void tablesWithoutColumns() {
-        FixtureTables x = tables(2);
+        FixtureTables x = Due.keys(2, 0);
         x.column(0, 0, false, 1);
         x.table();
         orderIs(x, 1, 0, 2);
     }
 
     private static void circle() {
-        FixtureTables x = tables(3);
+        FixtureTables x = Due.keys(3, 0);
         x.column(0, 0, false, 1);
         x.column(1, 0, false, 2);
         Due.dataset(x, "0(0):1;", 1);
@@ -92,7 +83,7 @@ public final class OrderTest {
     }
 
     private static void circleBehindOthers() {
-        FixtureTables x = tables(3);
+        FixtureTables x = Due.keys(3, 0);
         x.column(1, 0, false, 2);
         x.column(2, 0, false, 1);
         Due.raises("the first place, ahead of a circle", Due.UOE, () -> x.order(0));
@@ -101,7 +92,7 @@ public final class OrderTest {
     }
 
     private static void circleOfFive() {
-        FixtureTables x = tables(5);
+        FixtureTables x = Due.keys(5, 0);
         int[][] orders = {{0, 1, 2, 3, 4}, {1, 0, 2, 3, 4}, {2, 1, 0, 3, 4}, {3, 2, 1, 0, 4}, {4, 3, 2, 1, 0}};
         for (int i = 0; i < 5; i++) {
             orderIs(x, orders[i]);

@@ -163,7 +163,10 @@ public final class TablesEdgesTest {
         Due.is("the transaction", 0, () -> x.rollback());
     }
 
-    /** "COLUMNS 0, 1, .. (at most 5)"; "IllegalStateException if it has 5 columns" */
+    /**
+     * "A new column of a table: its number."; "COLUMNS 0, 1, .. (at most 5)";
+     * "IllegalStateException if it has 5 columns"
+     */
     private static void fiveColumns() {
         FixtureTables x = tables(2);
         for (int i = 0; i < 5; i++) {

@@ -163,6 +163,11 @@ public final class TextEdgesTest {
         x.type('1');
         Due.raises("nothing of the text before is left", Due.IAE, () -> x.read());
         Due.is("fault", 1, () -> x.fault());
+        FixtureTables y = typed("0(01):1234567,12.34:1,1;0(2):'a''b';");
+        String[] shorter = {"0(01):12", "0(01):1,12", "0(01):1,1.", "0(0)", "0(", "0", "0(2):'a'", "0(2):''"};
+        for (String text : shorter) {
+            Due.noDataset(y, text, text.length());
+        }
     }
 
     private static void wipeLeavesTheRest() {
@@ -354,7 +359,7 @@ public final class TextEdgesTest {
         Due.fails(x, "0(0):01;", 0, 2, 0, 0, -1);
     }
 
-    /** "DECIMAL: perhaps -, 1 to 6 digits, perhaps . and 1 or 2 digits" "(they don't stand without digits ahead)" */
+    /** "DECIMAL: perhaps -, 1 to 6 digits, perhaps . and 1 or 2 digits"; "they don't stand without digits ahead)" */
     private static void decimals() {
         follow("0(1):", DIGITS + "-~", "");
         follow("0(1):-", DIGITS, "");
@@ -487,7 +492,10 @@ public final class TextEdgesTest {
         good(sixths + ":t;", 24);
     }
 
-    /** "the place of the character with which it is the beginning of no dataset any more (the text's length at its end)" */
+    /**
+     * "the place of the character with which it is the beginning of no dataset any more (the text's length at its
+     * end)"
+     */
     private static void everyBeginning() {
         String text = "0(3210):t,'it''s',-12.05,007:~,abc,3,~;1(0);0(2):'':~;";
         for (int length = 0; length <= text.length(); length++) {

@@ -33,12 +33,6 @@ public final class TransactionsEdgesTest {
         Due.end();
     }
 
-    private static FixtureTables read(FixtureTables x, String text) {
-        Due.text(x, text);
-        x.read();
-        return x;
-    }
-
     /** Tables 0 and 1 of a key and an integer; row 1 in table 0. */
     private static FixtureTables tables() {
         FixtureTables x = new FixtureTables();
@@ -47,7 +41,7 @@ public final class TransactionsEdgesTest {
             x.column(table, 0, false, -1);
             x.column(table, 0, false, -1);
         }
-        read(x, "0(01):1,5;");
+        Due.read(x, "0(01):1,5;");
         x.apply(INSERT);
         return x;
     }
@@ -59,7 +53,7 @@ public final class TransactionsEdgesTest {
     /** So many changes more, all of them of row 1. */
     private static void change(FixtureTables x, int count) {
         if (count >= 20) {
-            read(x, ones(20));
+            Due.read(x, ones(20));
         }
         for (int i = 0; i < count / 20; i++) {
             Due.is("20 changes", 20, () -> x.apply(UPDATE));
@@ -105,7 +99,7 @@ public final class TransactionsEdgesTest {
         FixtureTables x = tables();
         for (int i = 2; i < 5; i++) {
             x.begin();
-            read(x, "0(0):" + i + ";");
+            Due.read(x, "0(0):" + i + ";");
             x.apply(INSERT);
         }
         return x;
@@ -237,24 +231,24 @@ public final class TransactionsEdgesTest {
         }
     }
 
-    /** "at most 200 CHANGES"; "check 7 fails if there would be more." */
+    /** "7 LOG: as below."; "at most 200 CHANGES"; "check 7 fails if there would be more." */
     private static void twoHundredChanges() {
         FixtureTables x = changed(199);
         Due.applied(x, "0(01):1,7;", UPDATE, 1);
         Due.fails(x, "0(01):1,8;", UPDATE, 7, 0, 0, -1);
         Due.is("the 200th was made, the 201st was not", 7, () -> x.value(0, 0, 1));
         Due.is("the transaction is open", 2, () -> x.begin());
-        Twins.failed("the 201st change", () -> read(changed(200), "0(01):1,8;"), UPDATE, 7, 0, 0, -1);
-        Twins.failed("the 201st change", () -> read(changed(199), "0(01):1,8:1,9;"), UPDATE, 7, 0, 1, -1);
-        Twins.failed("the 201st change", () -> read(changed(181), ones(20)), UPDATE, 7, 0, 19, -1);
-        Due.is("200 changes", 20, () -> read(changed(180), ones(20)).apply(UPDATE));
+        Twins.failed("the 201st change", () -> Due.read(changed(200), "0(01):1,8;"), UPDATE, 7, 0, 0, -1);
+        Twins.failed("the 201st change", () -> Due.read(changed(199), "0(01):1,8:1,9;"), UPDATE, 7, 0, 1, -1);
+        Twins.failed("the 201st change", () -> Due.read(changed(181), ones(20)), UPDATE, 7, 0, 19, -1);
+        Due.is("200 changes", 20, () -> Due.read(changed(180), ones(20)).apply(UPDATE));
     }
 
     /** "each one for itself": of one row, as of many */
     private static void oneByOne() {
         FixtureTables x = tables();
         x.begin();
-        read(x, "0(0):1;");
+        Due.read(x, "0(0):1;");
         for (int i = 0; i < 200; i++) {
             Due.is("one change", 1, () -> x.apply(UPDATE));
         }
@@ -282,25 +276,25 @@ public final class TransactionsEdgesTest {
         for (int operation = INSERT; operation <= DELETE_ALL; operation++) {
             int number = operation;
             String text = texts[operation];
-            Due.is("the 200th change", 1, () -> read(changed(199), text).apply(number));
-            Twins.failed("the 201st change", () -> read(changed(200), text), operation, 7, 0, rows[operation], -1);
+            Due.is("the 200th change", 1, () -> Due.read(changed(199), text).apply(number));
+            Twins.failed("the 201st change", () -> Due.read(changed(200), text), operation, 7, 0, rows[operation], -1);
         }
-        Due.is("REFRESH of a new row", 1, () -> read(changed(199), "0(0):2;").apply(REFRESH));
-        Twins.failed("REFRESH of a new row", () -> read(changed(200), "0(0):2;"), REFRESH, 7, 0, 0, -1);
+        Due.is("REFRESH of a new row", 1, () -> Due.read(changed(199), "0(0):2;").apply(REFRESH));
+        Twins.failed("REFRESH of a new row", () -> Due.read(changed(200), "0(0):2;"), REFRESH, 7, 0, 0, -1);
     }
 
     /** "(of 4 each table) is CHECKED": a table's rows go all together. */
     private static void wholeTables() {
-        Due.is("12 rows, the last one is the 200th", 12, () -> read(fullAndChanged(188), "0(0);").apply(DELETE_ALL));
-        Twins.failed("12 rows, the last one is the 201st", () -> read(fullAndChanged(189), "0(0);"), DELETE_ALL,
+        Due.is("the last row is the 200th", 12, () -> Due.read(fullAndChanged(188), "0(0);").apply(DELETE_ALL));
+        Twins.failed("12 rows, the last one is the 201st", () -> Due.read(fullAndChanged(189), "0(0);"), DELETE_ALL,
                 7, 0, -1, -1);
-        Twins.failed("12 rows, the first one is the 201st", () -> read(fullAndChanged(200), "0(0);"), DELETE_ALL,
+        Twins.failed("12 rows, the first one is the 201st", () -> Due.read(fullAndChanged(200), "0(0);"), DELETE_ALL,
                 7, 0, -1, -1);
     }
 
     private static FixtureTables fullAndChanged(int count) {
         FixtureTables x = tables();
-        read(x, "0(0):2:3:4:5:6:7:8:9:10:11:12;");
+        Due.read(x, "0(0):2:3:4:5:6:7:8:9:10:11:12;");
         x.apply(INSERT);
         x.begin();
         change(x, count);
@@ -309,9 +303,9 @@ public final class TransactionsEdgesTest {
 
     /** Table 1 is cleared first: it fits, and table 0 does not. */
     private static void tablesOneAfterAnother() {
-        Due.is("both fit", 3, () -> read(twoAndOne(197), "0(0);1(0);").apply(DELETE_ALL));
-        Twins.failed("the second one does not", () -> read(twoAndOne(198), "0(0);1(0);"), DELETE_ALL, 7, 0, -1, -1);
-        Twins.failed("the first one does not", () -> read(twoAndOne(199), "0(0);1(0);"), DELETE_ALL, 7, 1, -1, -1);
+        Due.is("both fit", 3, () -> Due.read(twoAndOne(197), "0(0);1(0);").apply(DELETE_ALL));
+        Twins.failed("the second one does not", () -> Due.read(twoAndOne(198), "0(0);1(0);"), DELETE_ALL, 7, 0, -1, -1);
+        Twins.failed("the first one does not", () -> Due.read(twoAndOne(199), "0(0);1(0);"), DELETE_ALL, 7, 1, -1, -1);
         FixtureTables x = twoAndOne(198);
         Due.fails(x, "0(0);1(0);", DELETE_ALL, 7, 0, -1, -1);
         Due.applied(x, "1(0);", DELETE_ALL, 2);
@@ -322,7 +316,7 @@ public final class TransactionsEdgesTest {
     /** Two rows in table 1, one in table 0. */
     private static FixtureTables twoAndOne(int count) {
         FixtureTables x = tables();
-        read(x, "1(0):1:2;");
+        Due.read(x, "1(0):1:2;");
         x.apply(INSERT);
         x.begin();
         change(x, count);
@@ -331,10 +325,10 @@ public final class TransactionsEdgesTest {
 
     /** "of 5 those gone and those made": the rows that go count, too. */
     private static void cleanInsert() {
-        Due.is("200 changes", 3, () -> read(changed(197), "0(0):1:2;").apply(CLEAN_INSERT));
-        Twins.failed("201 changes", () -> read(changed(198), "0(0):1:2;"), CLEAN_INSERT, 7, 0, 1, -1);
-        Twins.failed("202 changes", () -> read(changed(199), "0(0):1:2;"), CLEAN_INSERT, 7, 0, 0, -1);
-        Twins.failed("203 changes", () -> read(changed(200), "0(0):1:2;"), CLEAN_INSERT, 7, 0, -1, -1);
+        Due.is("200 changes", 3, () -> Due.read(changed(197), "0(0):1:2;").apply(CLEAN_INSERT));
+        Twins.failed("201 changes", () -> Due.read(changed(198), "0(0):1:2;"), CLEAN_INSERT, 7, 0, 1, -1);
+        Twins.failed("202 changes", () -> Due.read(changed(199), "0(0):1:2;"), CLEAN_INSERT, 7, 0, 0, -1);
+        Twins.failed("203 changes", () -> Due.read(changed(200), "0(0):1:2;"), CLEAN_INSERT, 7, 0, -1, -1);
         FixtureTables x = changed(198);
         Due.fails(x, "0(0):1:2;", CLEAN_INSERT, 7, 0, 1, -1);
         roomFor(x, 2);
@@ -377,7 +371,7 @@ public final class TransactionsEdgesTest {
         Due.fails(x, "0(0):1;", UPDATE, 7, 0, 0, -1);
     }
 
-    /** "those rolled back .. don't count any more" */
+    /** "those rolled back, or of an operation that failed, don't count any more": the first of them */
     private static void rolledBack() {
         FixtureTables x = changed(20);
         x.begin();
@@ -390,7 +384,7 @@ public final class TransactionsEdgesTest {
         roomFor(x, 180);
     }
 
-    /** "or of an operation that failed, don't count any more" */
+    /** "those rolled back, or of an operation that failed, don't count any more": the second of them */
     private static void operationsThatFailed() {
         FixtureTables x = changed(180);
         Due.fails(x, "0(0)" + ":1".repeat(19) + ":~;", UPDATE, 1, 0, 19, 0);

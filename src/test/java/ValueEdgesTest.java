@@ -12,6 +12,7 @@ public final class ValueEdgesTest {
         booleans();
         bitsOfCharacters();
         nullIsZero();
+        nullWhereValuesWere();
         orderOfNumbers();
         orderOfDecimals();
         orderOfBooleans();
@@ -40,7 +41,7 @@ public final class ValueEdgesTest {
         Twins.refused("isNull" + place, Due.IOOBE, () -> Twins.rich(1), x -> x.isNull(table, row, column) ? 1 : 0);
     }
 
-    /** "IndexOutOfBoundsException if there is no such table" */
+    /** "IndexOutOfBoundsException if there is no such table"; "IndexOutOfBoundsException as above." */
     private static void noSuchTable() {
         for (int table : Due.outside(3)) {
             refused(table, 0, 0);
@@ -52,7 +53,10 @@ public final class ValueEdgesTest {
         Twins.answered("isNull(1, 0, 0)", 0, () -> Twins.rich(1), x -> x.isNull(1, 0, 0) ? 1 : 0);
     }
 
-    /** "row" */
+    /**
+     * "A value, of a row by its place in the order of keys"; "IndexOutOfBoundsException if there is no such table,
+     * row"
+     */
     private static void noSuchRow() {
         for (int row : Due.outside(2)) {
             refused(0, row, 0);
@@ -64,7 +68,7 @@ public final class ValueEdgesTest {
         Due.is("the last row", 2, () -> Twins.rich(1).value(0, 1, 0));
     }
 
-    /** "or column." */
+    /** "IndexOutOfBoundsException if there is no such table, row or column." */
     private static void noSuchColumn() {
         for (int column : Due.outside(2)) {
             refused(0, 1, column);
@@ -100,6 +104,12 @@ public final class ValueEdgesTest {
         nowhere(x, 3, 0, 0);
         nowhere(x, 3, 12, 0);
         nowhere(x, 4, 10, 5);
+        Due.applied(x, "4(0):1;", 3, 1);
+        Due.is("the last cell, when the first row is gone", 77, () -> x.value(4, 10, 4));
+        nowhere(x, 4, 11, 4);
+        Due.applied(x, "4(04):0,66;", 0, 1);
+        Due.is("the first row", 66, () -> x.value(4, 0, 4));
+        Due.is("the last cell again", 77, () -> x.value(4, 11, 4));
     }
 
     private static void rowsThatAreGone() {
@@ -188,6 +198,24 @@ public final class ValueEdgesTest {
         }
     }
 
+    /** "0 if it is null.": also where datasets and rows that are gone had values. */
+    private static void nullWhereValuesWere() {
+        FixtureTables x = table(0, 5);
+        for (int i = 0; i < 3; i++) {
+            Due.applied(x, "0(01234):1,6,7,8,9:2,6,7,8,9;", 0, 2);
+            Due.applied(x, "0(01234):1,5,5,5,5:2,5,5,5,5;", 3, 2);
+        }
+        Due.applied(x, "0(0):1;0(01234):2,~,~,~,~;", 0, 2);
+        for (int row = 0; row < 2; row++) {
+            for (int column = 1; column < 5; column++) {
+                int number = row;
+                int place = column;
+                Due.is("null's value", 0, () -> x.value(0, number, place));
+                Due.is("null", 1, () -> x.isNull(0, number, place) ? 1 : 0);
+            }
+        }
+    }
+
     private static void ordered(int type, String typed, String want) {
         FixtureTables x = table(type, 1);
         Due.text(x, "0(0)" + typed + ";");
@@ -216,7 +244,9 @@ public final class ValueEdgesTest {
     /** "texts by their characters, one that is the beginning of another one first." */
     private static void orderOfTexts() {
         ordered(2, ":b:ab:a:'':abc:aa:'a ':' ':'~':'A':z", ":'':' ':'A':a:'a ':aa:ab:abc:b:z:'~'");
-        ordered(2, ":zzzzzzzz:zzzzzzz:zzzzzzzy:'zzzzzzz~':'zzzzzzz '", ":zzzzzzz:'zzzzzzz ':zzzzzzzy:zzzzzzzz:'zzzzzzz~'");
-        ordered(2, ":'~~~~~~~~':'~~~~~~~':'        ':'       ':''''", ":'       ':'        ':'''':'~~~~~~~':'~~~~~~~~'");
+        ordered(2, ":zzzzzzzz:zzzzzzz:zzzzzzzy:'zzzzzzz~':'zzzzzzz '",
+                ":zzzzzzz:'zzzzzzz ':zzzzzzzy:zzzzzzzz:'zzzzzzz~'");
+        ordered(2, ":'~~~~~~~~':'~~~~~~~':'        ':'       ':''''",
+                ":'       ':'        ':'''':'~~~~~~~':'~~~~~~~~'");
     }
 }
